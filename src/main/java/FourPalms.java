@@ -344,7 +344,7 @@ public final class FourPalms {
         }
         int unfit = set & ~standing.goers(k, k.cartSet(), RANK_LESS);
         if (unfit != 0) {
-            return Integer.numberOfTrailingZeros(unfit);
+            return leastOf(unfit);
         }
         int wrong = k.firstFighting(set);
         if (wrong == NONE) {
@@ -609,6 +609,16 @@ public final class FourPalms {
 
     private static boolean within(int v, int most) {
         return v >= 0 && v <= most;
+    }
+
+    /** The least road of a set. */
+    private static int leastOf(int set) {
+        for (int road = 0; road < MOST_ROADS; road++) {
+            if ((set >> road & 1) != 0) {
+                return road;
+            }
+        }
+        return NONE;
     }
 
     private static boolean isCrossingSet(int set) {
@@ -1348,7 +1358,7 @@ public final class FourPalms {
             if (held == 0) {
                 return;
             }
-            int x = Integer.numberOfTrailingZeros(held);
+            int x = leastOf(held);
             int seen = 0;
             int steps = 0;
             while (steps < MOST_ROADS && x != NONE && (seen >> x & 1) == 0) {
@@ -1515,8 +1525,8 @@ public final class FourPalms {
         private final World world;
         private final Pair pair;
         private final Orders[] ordersOf = new Orders[MOST_ROADS - LEAST_ROADS + 1];
-        private Crossing met = null;
-        private Orders orders = null;
+        private Crossing met;
+        private Orders orders;
         private int numbers = 1;
         // for each two slots: how x answers y by each way that is tried, the bits that verdicts() takes
         private final int[] answers = new int[SLOTS * SLOTS];
