@@ -379,7 +379,7 @@ public final class FourPalms {
         if (k == null || !within(what, 4)) {
             return NONE;
         }
-        coming.askByRules(k);
+        coming.askByRule(k, NONE);
         if (what == 0) {
             return coming.withCarts();
         }
@@ -399,7 +399,7 @@ public final class FourPalms {
         if (k == null || !within(which, 1)) {
             return false;
         }
-        coming.askByRules(k);
+        coming.askByRule(k, NONE);
         coming.survey();
         int slots = which == 0 ? coming.stuckSlots : coming.bothSlots;
         int order = which == 0 ? coming.stuckOrder : coming.bothOrder;
@@ -418,7 +418,7 @@ public final class FourPalms {
         if (k.comerCount[road] == 0) {
             return NONE;
         }
-        coming.askByRules(k);
+        coming.askByRule(k, NONE);
         return coming.oddsOf(road);
     }
 
@@ -427,7 +427,7 @@ public final class FourPalms {
         if (k == null) {
             return NONE;
         }
-        coming.askByRules(k);
+        coming.askByRule(k, NONE);
         return coming.mutualCouples();
     }
 
@@ -445,7 +445,7 @@ public final class FourPalms {
         }
         int held = 0;
         for (int c = 0; c < CROSSINGS; c++) {
-            coming.askByOne(world.crossings[c], rule);
+            coming.askByRule(world.crossings[c], rule);
             if (!coming.isEverBad()) {
                 held |= 1 << c;
             }
@@ -458,7 +458,7 @@ public final class FourPalms {
         if (k == null) {
             return NONE;
         }
-        coming.askByRules(k);
+        coming.askByRule(k, NONE);
         return coming.starving();
     }
 
@@ -1584,13 +1584,8 @@ public final class FourPalms {
             return slots;
         }
 
-        void askByRules(Crossing k) {
-            meet(k);
-            ask(BY_RULE, NONE);
-            settle(BY_RULE, 0);
-        }
-
-        void askByOne(Crossing k, int rule) {
+        /** How those that can come wait by a rule, or (NONE) by the rules of the lands. */
+        void askByRule(Crossing k, int rule) {
             meet(k);
             ask(BY_RULE, rule);
             settle(BY_RULE, 0);
