@@ -1,43 +1,7 @@
 /** For each promise: ordinary calls, the edges that the document names, and wrong calls, answers worked out by hand. */
-public final class PromisesTest {
-    private static final int NONE = FourPalms.NONE;
+public final class PromisesTest extends Asking {
     private static final String RIGHT = "wait when right = 1;";
     private static final String FIRST = "wait when first = 1;";
-
-    private static int wrong = 0;
-    private static int asked = 0;
-
-    private static void due(String what, int got, int want) {
-        asked++;
-        if (got != want) {
-            wrong++;
-            System.out.println(what + ": answered " + got + ", due is " + want);
-        }
-    }
-
-    private static void due(String what, boolean got, boolean want) {
-        due(what, got ? 1 : 0, want ? 1 : 0);
-    }
-
-    /** Feeds a text and ends the tape there. */
-    private static void tape(FourPalms x, String text) {
-        int before = x.feed(0, 0, 0, 0, 0) - 20;
-        x.end(before);
-        for (int at = 0; at < text.length(); at += 20) {
-            int[] five = new int[5];
-            for (int i = 0; i < 20; i++) {
-                int sign = at + i < text.length() ? text.charAt(at + i) : ' ';
-                five[i / 4] = five[i / 4] << 8 | sign;
-            }
-            x.feed(five[0], five[1], five[2], five[3], five[4]);
-        }
-        x.end(before + text.length());
-    }
-
-    private static int told(FourPalms x, int k, String text) {
-        tape(x, text);
-        return x.rule(k);
-    }
 
     private static void fault(String text, int fault, int place) {
         FourPalms x = new FourPalms();
@@ -1186,9 +1150,6 @@ public final class PromisesTest {
         rings();
         images();
         looks();
-        System.out.println(asked + " answers, " + wrong + " of them wrong");
-        if (wrong != 0) {
-            System.exit(1);
-        }
+        close();
     }
 }
