@@ -66,6 +66,28 @@ abstract class Asking {
         return behind - 20;
     }
 
+    /** The text is a rule of so many lines. */
+    static void fine(String text, int lines) {
+        FourPalms x = new FourPalms();
+        told(x, 3, "go ?");
+        due("rule of " + text, told(x, 3, text), lines);
+        due("fault of " + text, x.fault(0), 0);
+        due("place in " + text, x.fault(1), NONE);
+        due("lines of " + text, x.look(0), lines);
+        due("tape behind " + text, taped(x), 0);
+    }
+
+    /** The text has a fault at a place: the rule stays as it was, and the tape is empty. */
+    static void fault(String text, int fault, int place) {
+        FourPalms x = new FourPalms();
+        told(x, 0, "go; wait; go;");
+        due("rule of " + text, told(x, 0, text), NONE);
+        due("fault of " + text, x.fault(0), fault);
+        due("place in " + text, x.fault(1), place);
+        due("the rule behind " + text, x.look(0), 3);
+        due("tape behind " + text, taped(x), 0);
+    }
+
     /** Prints how it went; a wrong answer ends the test with exit code 1. */
     static void close() {
         System.out.println((edges > 0 ? edges + " edges, " : "") + asked + " answers, " + wrong + " of them wrong");

@@ -9,6 +9,9 @@ public final class ComingEdgesTest extends Asking {
         orders();
         numbering();
         evers();
+        oneOrder();
+        knots();
+        landsOfRoads();
         laying();
         standing();
         odds();
@@ -17,7 +20,7 @@ public final class ComingEdgesTest extends Asking {
         holds();
         starve();
         words();
-        strictWords();
+        truths();
         wordings();
         shortest();
         signs();
@@ -135,11 +138,18 @@ public final class ComingEdgesTest extends Asking {
             due(of + "lay", x.lay(3, 0), true);
             due(of + "the first of them, " + p, x.of(3, p, 3), n < 5 ? q : n - 1);
             due(of + "the first of them, " + q, x.of(3, q, 3), n < 5 ? q - 1 : q - p - 1);
+            due(of + "both in all others", x.ever(3, 2), n == 3 ? 3 : n == 4 ? 12 : n - q + p);
+            due(of + "lay", x.lay(3, 1), true);
+            due(of + "the first of those, " + p, x.of(3, p, 3), p);
+            due(of + "the first of those, " + q, x.of(3, q, 3), q);
             told(x, 0, "wait when size = 1 and first = 1 or size = 0 and first = 0;");
             due(of + "orders with " + p + " ahead", x.ever(3, 1), n == 3 ? 3 : n == 4 ? 12 : n - q + p);
             due(of + "lay", x.lay(3, 0), true);
             due(of + "the first of them, " + p, x.of(3, p, 3), p);
             due(of + "the first of them, " + q, x.of(3, q, 3), q);
+            due(of + "lay", x.lay(3, 1), true);
+            due(of + "the first of those, " + p, x.of(3, p, 3), n < 5 ? q : n - 1);
+            due(of + "the first of those, " + q, x.of(3, q, 3), n < 5 ? q - 1 : q - p - 1);
         });
     }
 
@@ -236,6 +246,17 @@ public final class ComingEdgesTest extends Asking {
             }
             due("81 less the empty one, in 24", x.ever(0, 0), 80 * 24);
         });
+        edge("LEAST STUCK, LEAST BOTH (NONE: there is none): asked again when there is none any more", x -> {
+            two(x, 0);
+            due("both", x.ever(0, 4), 2);
+            told(x, 0, "wait;");
+            due("stuck", x.ever(0, 3), 2);
+            due("none that is both", x.ever(0, 4), NONE);
+            due("none to lay", x.lay(0, 1), false);
+            told(x, 0, "wait when first = 1;");
+            due("none that is stuck", x.ever(0, 3), NONE);
+            due("none to lay", x.lay(0, 0), false);
+        });
         edge("ever: NONE if one can't be, or another what", x -> {
             two(x, 0);
             due("what 5", x.ever(0, 5), NONE);
@@ -287,6 +308,98 @@ public final class ComingEdgesTest extends Asking {
             due("lay again", x.lay(0, 0), true);
             due("STAY", x.of(0, 0, 5), 0);
         });
+        edge("in place of its CARTS: on no ROAD one is left, be it the first or the last", x -> {
+            x.crossing(1, 6);
+            told(x, 0, "wait;");
+            x.comer(1, 2, 4, 0, 0);
+            x.comer(1, 3, 4, 0, 0);
+            for (int r = 0; r < 6; r++) {
+                x.cart(1, r, (r + 3) % 6, 0, 0, 0, 1);
+            }
+            due("lay", x.lay(1, 0), true);
+            due("carts", x.now(1, 3), 12);
+        });
+    }
+
+    /** Who is ahead waits, but of the last and the first size the last one: stuck in just the order of their sizes. */
+    private static void oneOrder() {
+        String told = "go when size = 0 and osize = roads - 1; wait when size = roads - 1 and osize = 0;"
+            + "wait when first = 0;";
+        for (int n = 3; n < 5; n++) {
+            for (int last = 0; last < 2; last++) {
+                int roads = n;
+                boolean down = last == 1;
+                edge("all orders of the ROADS: the first one, the last one", x -> {
+                    told(x, 2, told);
+                    x.land(0, 2);
+                    x.crossing(4, roads);
+                    for (int r = 0; r < roads; r++) {
+                        x.comer(4, r, roads == 3 ? (r + 2) % 3 : (r + 2) % 4, 0, 0);
+                        x.road(4, r, SIZE, down ? roads - 1 - r : r);
+                    }
+                    due("in one order", x.ever(4, 1), 1);
+                    due("with all", x.ever(4, 3), roads);
+                    due("never both", x.ever(4, 2), 0);
+                    due("lay", x.lay(4, 0), true);
+                    for (int r = 0; r < roads; r++) {
+                        due("rank of " + r, x.of(4, r, 3), down ? roads - 1 - r : r);
+                    }
+                    due("HOLDS", x.holds(2), 47);
+                    due("BORDER", x.border(4, 0) > 0, true);
+                    due("SIGNS", x.signs(4), NONE);
+                    x.comer(4, 1, NONE, 0, 0);
+                    due("without one", x.holds(2), 63);
+                    due("SIGNS", x.signs(4), 0);
+                });
+            }
+        }
+    }
+
+    private static void knots() {
+        edge("each ROAD is empty or has one of its COMERS: two of one ROAD aren't there at once", x -> {
+            told(x, 0, "wait when oload = load + 1 or load = 4 and oload = 1;");
+            told(x, 1, "go;");
+            // a ring of four, but those with loads 1 and 3 come by one road
+            x.comer(0, 0, 2, 0, 1);
+            x.comer(0, 1, 3, 0, 2);
+            x.comer(0, 0, 2, 0, 3);
+            x.comer(0, 3, 1, 0, 4);
+            due("STUCK", x.ever(0, 1), 0);
+            due("BOTH", x.ever(0, 2), 0);
+            due("HOLDS", x.holds(0), 63);
+            due("SIGNS", x.signs(0), 0);
+            due("MUTUAL", x.mutual(0), 0);
+            // by a road each they are
+            x.comer(5, 0, 2, 0, 1);
+            x.comer(5, 1, 3, 0, 2);
+            x.comer(5, 2, 0, 0, 3);
+            x.comer(5, 3, 1, 0, 4);
+            due("STUCK, in 24 orders", x.ever(5, 1), 24);
+            due("HOLDS", x.holds(0), 31);
+            due("SIGNS", x.signs(5), NONE);
+        });
+    }
+
+    private static void landsOfRoads() {
+        for (int n = 4; n < 7; n += 2) {
+            for (int road = 0; road < n; road++) {
+                int roads = n;
+                int r = road;
+                edge("by the RULES of the LANDS: each CART by that of its own ROAD", x -> {
+                    x.crossing(0, roads);
+                    told(x, 1, "wait;");
+                    for (int q = 0; q < roads; q++) {
+                        x.comer(0, q, (q + roads / 2) % roads, 0, 0);
+                        x.comer(0, q, (q + roads / 2) % roads, 0, 0);
+                    }
+                    x.road(0, r, LAND, 1);
+                    due("STARVE", x.starve(0), 1 << r);
+                    for (int q = 0; q < roads; q++) {
+                        due("ODDS of " + q, x.odds(0, q) > 0, q == r);
+                    }
+                });
+            }
+        }
     }
 
     /** What is told of all that can come, by each call that looks at it. */
@@ -355,9 +468,31 @@ public final class ComingEdgesTest extends Asking {
             due("of two comers one fights with none", x.odds(0, 0), 333);
             due("1 never waits", x.odds(0, 1), 0);
         });
+        edge("ODDS of the last ROAD: of its own COMERS", x -> {
+            told(x, 0, "wait when load = 7;");
+            x.crossing(0, 6);
+            x.comer(0, 5, 2, 0, 7);
+            x.comer(0, 5, 2, 0, 8);
+            x.comer(0, 4, 1, 0, 0);
+            x.comer(0, 4, 1, 0, 7);
+            x.comer(0, 3, 0, 0, 7);
+            due("5: one of two comers, unless 4 and 3 are empty", x.odds(0, 5), 1000 * 5 / 12);
+            due("4: one of two comers, unless 5 and 3 are empty", x.odds(0, 4), 1000 * 5 / 12);
+            due("3: unless 4 and 5 are empty", x.odds(0, 3), 1000 * 8 / 9);
+        });
     }
 
     private static void mutual() {
+        edge("couples: of the second COMER of a ROAD and the first of the next one", x -> {
+            told(x, 0, "wait;");
+            x.crossing(5, 6);
+            x.comer(5, 3, 4, 0, 0);
+            x.comer(5, 3, 0, 0, 0);
+            x.comer(5, 4, 0, 0, 0);
+            x.comer(5, 5, 0, 0, 0);
+            due("3 and 4, 3 and 5, 4 and 5 in 6 orders, the last ones with 3 empty, to the right, straight",
+                x.mutual(5), 6 * (2 + 2 + 3));
+        });
         edge("how many couples of CARTS (over all of ALL THAT CAN COME) WAIT for each other", x -> {
             due("nobody comes", x.mutual(0), 0);
             told(x, 0, "wait;");
@@ -389,6 +524,19 @@ public final class ComingEdgesTest extends Asking {
             due("an empty RULE", x.used(3, 0), 0);
             told(x, 3, "wait when load = 8;");
             due("a line that is never so", x.used(3, 0), 0);
+        });
+        edge("the first whose B is so: x may be first, or later, in each crossing", x -> {
+            told(x, 0, "wait when first = 1; go;");
+            told(x, 1, "wait when right = 1; go when left = 1;");
+            told(x, 2, "wait when first = 0; go when first = 1; wait;");
+            for (int n = 3; n < 7; n++) {
+                x.crossing(0, n);
+                x.comer(0, 0, 2, 0, 0);
+                x.comer(0, 1, 2, 0, 0);
+                due("first, and not", x.used(0, 0), 3);
+                due("at the right, at the left", x.used(1, 0), 3);
+                due("no third line", x.used(2, 0), 3);
+            }
         });
         edge("for some CART x and another one y whose WAYS FIGHT", x -> {
             told(x, 0, "wait when right = 1; go when left = 1; wait;");
@@ -484,48 +632,70 @@ public final class ComingEdgesTest extends Asking {
         });
     }
 
-    private static void strictWords() {
+    /** That a WORD is so for 0 of 1 (it is to the right), and for 1 of 0 (to the left). */
+    private static void so(FourPalms x, int word, boolean ofOne, boolean ofNought) {
+        // go if it is so, else wait for the one to the right, to the left: sound, unless it is so
+        due("word " + word + " for 0 of 1", x.sound(1, 17 * (word + 9) + 1), ofOne ? 0 : 1);
+        due("word " + word + " for 1 of 0", x.sound(1, 17 * (word + 9) + 2), ofNought ? 0 : 1);
+        due("word " + word + " alone", x.sound(1, word + 1), ofOne != ofNought ? 1 : 0);
+    }
+
+    private static void truths() {
         edge("3 osize above size", x -> {
             two(x, 0);
-            x.road(0, 0, SIZE, 3);
-            x.road(0, 1, SIZE, 3);
-            due("alike", x.sound(1, 4), 0);
-            x.road(0, 0, SIZE, 2);
-            due("above", x.sound(1, 4), 1);
-            due("and no other word", x.sound(1, 7) + x.sound(1, 8), 0);
-        });
-        edge("4 oturn 0 and turn not 0, 5 turn 2 and oturn not 2", x -> {
-            // 0 straight, right, left; another one that fights with it
-            int[][] ways = {{0, 2, 1, 3}, {0, 1, 3, 1}, {0, 3, 2, 0}, {0, 3, 1, 3}, {0, 1, 2, 1}, {0, 3, 1, 0}};
-            int[] straight = {0, 1, 1, 1, 0, 0};
-            int[] left = {0, 0, 1, 1, 1, 0};
-            for (int i = 0; i < ways.length; i++) {
-                int[] a = ways[i];
-                x.crossing(0, 4);
-                x.comer(0, a[0], a[1], 0, 0);
-                x.comer(0, a[2], a[3], 0, 0);
-                due("they fight", x.fight(0, a[0], a[1], a[2], a[3]), 1);
-                due("word 4 of " + a[1] + " and " + a[2] + " to " + a[3], x.sound(1, 5), straight[i]);
-                due("word 5 of " + a[1] + " and " + a[2] + " to " + a[3], x.sound(1, 6), left[i]);
+            for (int i = 0; i < 16; i++) {
+                x.road(0, 0, SIZE, i / 4);
+                x.road(0, 1, SIZE, i % 4);
+                so(x, 3, i % 4 > i / 4, i / 4 > i % 4);
+                so(x, 6, false, false);
+                so(x, 7, false, false);
             }
         });
+        edge("4 oturn 0 and turn not 0, 5 turn 2 and oturn not 2", x -> {
+            int[] turns = {0, 1, 0, 2};
+            for (int a = 1; a < 4; a++) {
+                for (int b = 1; b < 4; b++) {
+                    x.crossing(0, 4);
+                    x.comer(0, 0, a, 0, 0);
+                    x.comer(0, 1, (1 + b) % 4, 0, 0);
+                    if (x.fight(0, 0, a, 1, (1 + b) % 4) == 1) {
+                        int p = turns[a];
+                        int q = turns[b];
+                        so(x, 4, q == 0 && p != 0, p == 0 && q != 0);
+                        so(x, 5, p == 2 && q != 2, q == 2 && p != 2);
+                    }
+                }
+            }
+        });
+        edge("turn 2: also of those that don't stand next to each other", x -> {
+            x.comer(0, 0, 3, 0, 0);
+            x.comer(0, 2, 0, 0, 0);
+            due("left waits for straight", x.sound(1, 5) + x.sound(1, 6), 2);
+            x.comer(0, 2, NONE, 0, 0);
+            x.comer(0, 2, 3, 0, 0);
+            due("left and right: word 4", x.sound(1, 5), 0);
+            due("left and right: word 5", x.sound(1, 6), 1);
+        });
         edge("6 oload above load", x -> {
-            x.comer(0, 0, 2, 0, 9);
-            x.comer(0, 1, 3, 0, 9);
-            due("alike", x.sound(1, 7), 0);
-            x.comer(0, 0, NONE, 0, 0);
-            x.comer(0, 0, 2, 0, 8);
-            due("above", x.sound(1, 7), 1);
-            due("and no other word", x.sound(1, 4) + x.sound(1, 8), 0);
+            int[][] loads = {{0, 0}, {9, 9}, {0, 1}, {1, 0}, {8, 9}, {9, 8}, {0, 9}};
+            for (int[] load : loads) {
+                x.crossing(0, 4);
+                x.comer(0, 0, 2, 3, load[0]);
+                x.comer(0, 1, 3, 0, load[1]);
+                so(x, 6, load[1] > load[0], load[0] > load[1]);
+                so(x, 3, false, false);
+                so(x, 7, false, false);
+            }
         });
         edge("7 osign 0 and sign not 0", x -> {
-            two(x, 0);
-            int[][] signs = {{0, 0}, {0, 1}, {0, 2}, {1, 0}, {2, 0}, {1, 1}, {1, 2}, {2, 1}, {2, 2}};
-            int[] sound = {0, 1, 1, 1, 1, 0, 0, 0, 0};
-            for (int i = 0; i < signs.length; i++) {
-                x.road(0, 0, SIGN, signs[i][0]);
-                x.road(0, 1, SIGN, signs[i][1]);
-                due("signs " + signs[i][0] + ", " + signs[i][1], x.sound(1, 8), sound[i]);
+            x.comer(0, 0, 2, 1, 0);
+            x.comer(0, 1, 3, 2, 0);
+            for (int i = 0; i < 9; i++) {
+                x.road(0, 0, SIGN, i / 3);
+                x.road(0, 1, SIGN, i % 3);
+                so(x, 7, i % 3 == 0 && i / 3 != 0, i / 3 == 0 && i % 3 != 0);
+                so(x, 3, false, false);
+                so(x, 6, false, false);
             }
         });
     }
@@ -557,6 +727,9 @@ public final class ComingEdgesTest extends Asking {
             due("right wait, sign go", x.sound(1, 17 + 16), 1);
             due("sign go, sign go", x.sound(1, 288), 0);
             due("sign wait, right wait", x.sound(1, 17 * 8 + 1), 1);
+            due("sign wait, right go", x.sound(1, 17 * 8 + 9), 0);
+            due("sign wait, sign wait", x.sound(1, 17 * 8 + 8), 0);
+            due("sign wait, first wait", x.sound(1, 17 * 8 + 3), 1);
         });
         edge("for a set of CROSSINGS: of ALL THAT CAN COME to all of them", x -> {
             two(x, 5);

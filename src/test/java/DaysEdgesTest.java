@@ -85,6 +85,24 @@ public final class DaysEdgesTest extends Asking {
             x.state(state);
             due("below CHANCE", x.run(0, 1), 1);
         });
+        edge("a DRAW of how many COMERS: of those of that ROAD", x -> {
+            told(x, 0, "wait;");
+            x.crossing(0, 6);
+            for (int r = 0; r < 6; r++) {
+                x.comer(0, r, (r + 3) % 6, 0, r);
+                if (r % 2 == 1) {
+                    x.comer(0, r, (r + 3) % 6, 1, r);
+                }
+                x.road(0, r, CHANCE, 100);
+            }
+            x.run(0, 1);
+            int state = 0;
+            for (int r = 0; r < 6; r++) {
+                state = after(after(state));
+                due("load on " + r, x.of(0, r, 2), r);
+                due("sort on " + r, x.of(0, r, 1), r % 2 == 0 ? 0 : drawn(state, 2));
+            }
+        });
         edge("a DRAW of how many COMERS: each of two is drawn", x -> {
             x.comer(0, 0, 2, 0, 1);
             x.comer(0, 0, 2, 0, 2);
@@ -344,6 +362,28 @@ public final class DaysEdgesTest extends Asking {
             told(x, 0, "wait;");
             x.run(0, 1);
             due("the next one, one TICK on", x.of(0, 0, 5), 1);
+        });
+        edge("WAIT of the ROAD, LONGEST of the ROAD: of each ROAD its own", x -> {
+            told(x, 0, "wait;");
+            x.crossing(0, 6);
+            for (int r = 0; r < 6; r++) {
+                for (int q = 0; q <= r; q++) {
+                    x.cart(0, q, (q + 3) % 6, 0, 0, 0, 1);
+                }
+                x.run(0, 2);
+            }
+            // 0 and 1 wait for each other from the second round on, each anew in every round
+            due("0 went alone in two ticks of the first round", x.days(0, 0, 0), 1);
+            for (int r = 0; r < 6; r++) {
+                due("WAIT of " + r, x.days(0, r, 1), r == 0 ? 10 : 2 * (6 - r));
+                due("LONGEST of " + r, x.days(0, r, 2), 2);
+                due("MEAN of " + r, x.days(0, r, 3), r == 0 ? 1000 : NONE);
+            }
+            for (int r = 5; r > 0; r--) {
+                x.cart(0, r, (r + 3) % 6, 0, 0, 0, 2);
+                due("it goes", x.run(0, 1) > 0, true);
+                due("MEAN of " + r, x.days(0, r, 3), 100 * x.days(0, r, 1) / x.days(0, r, 0));
+            }
         });
         edge("STAY and WAIT go on over 100", x -> {
             closed(x, 0);
@@ -636,6 +676,48 @@ public final class DaysEdgesTest extends Asking {
             x.cart(0, 1, NONE, 0, 0, 0, 0);
             due("chance: four of the ROW and one more", x.run(0, 3), 3);
             due("row", x.days(0, 0, 4), 5);
+        });
+        edge("THE IMAGE: COMERS and ROWS as they were", x -> {
+            closed(x, 0);
+            x.comer(0, 0, 2, 1, 3);
+            x.comer(0, 0, 2, 1, 4);
+            x.road(0, 0, CHANCE, 100);
+            x.run(0, 6);
+            x.image(true);
+            int state = 0;
+            int loads = 0;
+            for (int i = 0; i < 6; i++) {
+                state = after(after(state));
+                loads = 10 * loads + 3 + drawn(state, 2);
+            }
+            for (int i = 0; i < 2; i++) {
+                told(x, 0, "");
+                x.comer(0, 0, NONE, 0, 0);
+                x.comer(0, 0, 1, 3, 9);
+                x.cart(0, 0, NONE, 0, 0, 0, 0);
+                x.cart(0, 1, NONE, 0, 0, 0, 0);
+                x.run(0, 20);
+                closed(x, 0);
+                x.run(0, 20);
+                x.image(false);
+                due("in the ROW", x.days(0, 0, 4), 6);
+                due("how many COMERS", x.ever(0, 0), 48);
+                int seen = 0;
+                told(x, 0, "wait;");
+                x.cart(0, 1, 3, 0, 0, 0, 2);
+                x.road(0, 0, CHANCE, 0);
+                for (int k = 0; k < 6; k++) {
+                    x.cart(0, 0, NONE, 0, 0, 0, 0);
+                    x.cart(0, 1, 3, 0, 0, 0, 2);
+                    x.run(0, 1);
+                    seen = 10 * seen + x.of(0, 0, 2);
+                }
+                due("loads of the ROW", seen, loads);
+                x.comer(0, 1, 3, 0, 0);
+                due("lay", x.lay(0, 0), true);
+                due("load of the first COMER", x.of(0, 0, 2), 3);
+                due("its sort", x.of(0, 0, 1), 1);
+            }
         });
         edge("image: false if there is none", x -> {
             x.state(7);

@@ -3,24 +3,6 @@ public final class PromisesTest extends Asking {
     private static final String RIGHT = "wait when right = 1;";
     private static final String FIRST = "wait when first = 1;";
 
-    private static void fault(String text, int fault, int place) {
-        FourPalms x = new FourPalms();
-        told(x, 2, "go; go;");
-        due("rule of " + text, told(x, 2, text), NONE);
-        due("fault of " + text, x.fault(0), fault);
-        due("place in " + text, x.fault(1), place);
-        due("the rule stays behind " + text, x.look(0), 2);
-        due("the tape is empty behind " + text, x.feed(0, 0, 0, 0, 0), 20);
-    }
-
-    private static void fine(String text, int lines) {
-        FourPalms x = new FourPalms();
-        due("rule of " + text, told(x, 1, text), lines);
-        due("fault of " + text, x.fault(0), 0);
-        due("place in " + text, x.fault(1), NONE);
-        due("lines of " + text, x.look(0), lines);
-    }
-
     /** Whether a condition is so for a cart that goes straight from road 0 and another one that does so from road 1. */
     private static void so(String condition, boolean want) {
         FourPalms x = new FourPalms();

@@ -23,28 +23,6 @@ public final class RuleEdgesTest extends Asking {
         close();
     }
 
-    /** The text is a rule of so many lines. */
-    private static void fine(String text, int lines) {
-        FourPalms x = new FourPalms();
-        told(x, 3, "go ?");
-        due("rule of " + text, told(x, 3, text), lines);
-        due("fault of " + text, x.fault(0), 0);
-        due("place in " + text, x.fault(1), NONE);
-        due("lines of " + text, x.look(0), lines);
-        due("tape behind " + text, taped(x), 0);
-    }
-
-    /** The text has a fault at a place: the rule stays as it was, and the tape is empty. */
-    private static void fault(String text, int fault, int place) {
-        FourPalms x = new FourPalms();
-        told(x, 0, "go; wait; go;");
-        due("rule of " + text, told(x, 0, text), NONE);
-        due("fault of " + text, x.fault(0), fault);
-        due("place in " + text, x.fault(1), place);
-        due("the rule behind " + text, x.look(0), 3);
-        due("tape behind " + text, taped(x), 0);
-    }
-
     /** What a condition says of the carts on roads 0 and 1, which go straight. */
     private static void so(String condition, boolean want) {
         FourPalms x = new FourPalms();
@@ -118,6 +96,32 @@ public final class RuleEdgesTest extends Asking {
             due("rule", x.rule(0), 6);
             due("end(1)", x.end(1), false);
         });
+        edge("The TAPE has its first n bytes alone: what stood behind them isn't of the text", x -> {
+            tape(x, "gosling; 5");
+            x.end(2);
+            due("go, which has no end", x.rule(0), NONE);
+            due("place", x.fault(1), 2);
+            tape(x, "wait when 1=12345 ;");
+            x.end(13);
+            due("1, which has no end", x.rule(0), NONE);
+            due("place", x.fault(1), 13);
+            tape(x, "go;go;?");
+            x.end(6);
+            due("rule", x.rule(0), 2);
+            tape(x, "go; ");
+            x.end(0);
+            due("none at all", x.rule(0), 0);
+        });
+        edge("a TAPE of 400 bytes that ends within a token", x -> {
+            due("a keyword", told(x, 0, times(398, " ") + "go"), NONE);
+            due("place", x.fault(1), 400);
+            due("a number", told(x, 0, "wait when 1=" + times(384, "\n") + "1234"), NONE);
+            due("place", x.fault(1), 400);
+            due("none", told(x, 0, times(398, " ") + "gx"), NONE);
+            due("place", x.fault(1), 398);
+            due("one letter", told(x, 0, times(399, " ") + "g"), NONE);
+            due("place", x.fault(1), 399);
+        });
         edge("a TAPE of 400 bytes is read whole", x -> {
             due("400", told(x, 0, "go" + times(397, " ") + ";"), 1);
             due("400 without ;", told(x, 0, "go" + times(398, " ")), NONE);
@@ -167,6 +171,18 @@ public final class RuleEdgesTest extends Asking {
             due("waits by the one before", x.waits(0, 0, 1), 1);
             due("look(0)", x.look(0), 1);
             due("tape", taped(x), 0);
+        });
+        edge("a FAULT: nothing of its text is open in the next one", x -> {
+            String open = "wait when not (((((((1 + 2 * 3 <";
+            due("a text without an end", told(x, 0, open), NONE);
+            due("the next one", told(x, 0, "go when 1=1;"), 1);
+            due("a text without an end", told(x, 0, open), NONE);
+            due("eight are open", told(x, 0, "wait when " + times(8, "(") + "1=1" + times(8, ")") + ";"), 1);
+            due("nine lines and a part by 0", told(x, 0, times(9, "go;") + "go when 1/0=1;"), NONE);
+            due("sixteen lines", told(x, 0, times(16, "wait;")), 16);
+            due("a text without an end", told(x, 0, open), NONE);
+            due("no such RULE", told(x, 4, open), NONE);
+            due("none", x.rule(0), 0);
         });
         edge("fault: of the latest rule(): 0 without one, NONE for another what", x -> {
             told(x, 0, "go ?");
@@ -225,6 +241,11 @@ public final class RuleEdgesTest extends Asking {
                     fine(condition, 1);
                 } else if (sign != ';') {
                     fault(condition, 1, mark && "+-*/".indexOf(sign) >= 0 ? 16 : 15);
+                }
+                if (sign == '(') {
+                    fine("wait when (1=1);", 1);
+                } else if (!blank && !digit) {
+                    fault("wait when " + sign + " 1=1;", 1, 10);
                 }
             }
         });
@@ -381,6 +402,13 @@ public final class RuleEdgesTest extends Asking {
             fault("wait when (1=1)=1;", 1, 15);
             fault("wait when (1)=1;", 1, 12);
             fault("wait when (1+1)*2=4;", 1, 14);
+            fault("wait when (1=1)+1=2;", 1, 15);
+            fault("wait when (1=1)/1=1;", 1, 15);
+            fault("wait when (1<2)<2;", 1, 15);
+            fault("wait when (1=1) 1=1;", 1, 16);
+            fault("wait when (1=1)right=1;", 1, 15);
+            fault("wait when (1=1)(1=1);", 1, 15);
+            fault("wait when (1=1)not 1=1;", 1, 15);
             fault("wait when 1=1=1;", 1, 13);
             fault("wait when 1<=2;", 1, 12);
             fault("wait when =1;", 1, 10);
@@ -475,15 +503,16 @@ public final class RuleEdgesTest extends Asking {
     }
 
     private static void joining() {
-        String[] sides = {"1=0", "1=1"};
+        String[][] ways = {{"1=0", "1=1"}, {"2<1", "1<2"}, {"1>2", "2>1"}};
         edge("B = A {or A}. A = C {and C}", x -> {
-            for (int i = 0; i < 8; i++) {
+            for (int i = 0; i < 24; i++) {
+                String[] sides = ways[i / 8];
                 boolean a = (i & 1) != 0;
                 boolean b = (i & 2) != 0;
                 boolean c = (i & 4) != 0;
                 String p = sides[i & 1];
                 String q = sides[i >> 1 & 1];
-                String r = sides[i >> 2];
+                String r = sides[i >> 2 & 1];
                 so(p + " or " + q + " and " + r, a || b && c);
                 so(p + " and " + q + " or " + r, a && b || c);
                 so("(" + p + " or " + q + ")and " + r, (a || b) && c);

@@ -167,6 +167,21 @@ public final class StandingEdgesTest extends Asking {
             due("the last one", x.circle(2, 12), 2);
             due("one more", x.circle(2, 13), NONE);
         });
+        edge("CIRCLE of ROADS that aren't next to each other", x -> {
+            told(x, 0, "wait when oload = load + 1; wait when load = 4 and oload = 1;");
+            x.crossing(0, 6);
+            int[] roads = {0, 2, 3, 5};
+            for (int i = 0; i < 4; i++) {
+                x.cart(0, roads[i], (roads[i] + 3) % 6, 0, i + 1, 0, 0);
+            }
+            x.cart(0, 1, 4, 0, 0, 0, 0);
+            x.cart(0, 4, 1, 0, 3, 0, 0);
+            due("four", x.circle(0, 0), 4);
+            for (int i = 0; i < 4; i++) {
+                due("the ROAD " + i, x.circle(0, 10 + i), roads[i]);
+            }
+            due("no 4th", x.circle(0, 14), NONE);
+        });
     }
 
     private static void meanings() {
@@ -195,6 +210,11 @@ public final class StandingEdgesTest extends Asking {
             due("by RANKS alike it goes", x.meant(0, 0), 4);
             due("NOBODY is first", x.meant(0, 2), 4);
         });
+        for (int early = 0; early < 4; early++) {
+            for (int late = 0; late < 4; late++) {
+                stays(early, late);
+            }
+        }
         edge("meant: first 0 .. 3; NONE if one can't be", x -> {
             due("nobody there", x.meant(0, 3), 0);
             for (int how : new int[] {LEAST, -1, 4, MOST}) {
@@ -210,6 +230,28 @@ public final class StandingEdgesTest extends Asking {
             for (int how = 0; how < 4; how++) {
                 due("meant(0, " + how + ")", x.meant(0, how), 1);
             }
+        });
+    }
+
+    /** Of two that fight one stays longer than the other one. */
+    private static void stays(int early, int late) {
+        if ((early + late) % 2 == 0) {
+            return;
+        }
+        edge("MEANT by first: 1 STAY is more", x -> {
+            told(x, 0, "wait;");
+            x.cart(0, early, (early + 2) % 4, 0, 0, 50, 0);
+            x.cart(0, late, (late + 2) % 4, 0, 0, 49, 0);
+            x.run(0, 3);
+            x.cart(0, late, (late + 2) % 4, 0, 0, 49, 0);
+            x.run(0, 2);
+            told(x, 0, "wait when first = 1;");
+            due("STAY of " + early, x.of(0, early, 5), 5);
+            due("STAY of " + late, x.of(0, late, 5), 2);
+            due("by STAY", x.meant(0, 1), 1 << early);
+            due("by RANK", x.meant(0, 0), 1 << late);
+            x.cart(0, early, (early + 2) % 4, 0, 0, 50, 0);
+            due("by STAY, which is 0 now", x.meant(0, 1), 1 << late);
         });
     }
 
