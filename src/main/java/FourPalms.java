@@ -867,20 +867,22 @@ public final class FourPalms {
     private static final class Rule {
         int lines = 0;
         int size = 0;
-        final boolean[] waiting = new boolean[MOST_LINES];
+        // the lines that tell to wait, as a set
+        int waiting = 0;
         final int[] starts = new int[MOST_LINES + 1];
         final int[] operations = new int[MOST_TEXT];
 
         void empty() {
             lines = 0;
             size = 0;
+            waiting = 0;
             starts[0] = 0;
         }
 
         void copyFrom(Rule from) {
             lines = from.lines;
             size = from.size;
-            System.arraycopy(from.waiting, 0, waiting, 0, waiting.length);
+            waiting = from.waiting;
             System.arraycopy(from.starts, 0, starts, 0, starts.length);
             System.arraycopy(from.operations, 0, operations, 0, operations.length);
         }
@@ -894,7 +896,7 @@ public final class FourPalms {
 
         void closeLine(boolean wait) {
             if (lines < MOST_LINES) {
-                waiting[lines] = wait;
+                waiting |= wait ? 1 << lines : 0;
                 lines++;
                 starts[lines] = size;
             }
@@ -911,7 +913,7 @@ public final class FourPalms {
         }
 
         boolean isWait(int line) {
-            return line >= 0 && line < lines && waiting[line];
+            return line >= 0 && line < lines && (waiting >> line & 1) != 0;
         }
 
         private boolean isSo(int line, int[] asked, int[] stack) {
